@@ -1,0 +1,126 @@
+/** RULES: every mask in every place of every group, which labels an instruction has, and what WITHIN means. */
+public final class RuleTest {
+    private static final int P = 1;
+    private static final int X = 2;
+    private static final int Y = 4;
+
+    /** One instruction of each kind, its group and which of P X Y M it has, as a mask. */
+    private static final int[][] KINDS = {
+        {Asm.add(5, 1, 2), 0, 7}, {Asm.work(0, 32, 5, 1, 2), 0, 7}, {Asm.addI(5, 1, 2), 0, 3},
+        {Asm.workI(5, 5, 1, 2), 0, 3}, {Asm.upper(5, 0x00110), 0, 1}, {Asm.upperFromPc(5, 0x00110), 0, 1},
+        {Asm.load(2, 5, 1, 0), 1, 11}, {Asm.load(0, 5, 1, 3), 1, 11}, {Asm.load(4, 5, 1, 2), 1, 11},
+        {Asm.store(2, 2, 1, 0), 2, 15}, {Asm.store(0, 2, 1, 3), 3, 15},
+        {Asm.branch(0, 1, 2, 8), 4, 7}, {Asm.branch(1, 1, 2, 8), 4, 7},
+        {Asm.call(5, 8), 5, 1}, {Asm.leap(5, 1, 0), 6, 3},
+        {Asm.out(1), 7, 3}, {Asm.in(5), 8, 9},
+        // bits that IN and CALL leave aside name registers with labels, and these must not count
+        {Asm.fields(11, 5, 1, 1, 2, 0), 8, 9}, {Asm.fields(11, 7, 0, 1, 2, 127), 7, 3},
+        {Asm.fields(111, 5, 0, 1, 2, 0), 5, 1}
+    };
+
+    public static void main(String[] args) {
+        for (int[] kind : KINDS) {
+            resultsAndNexts(kind[0], kind[1], kind[2]);
+            leftsAndRights(kind[0], kind[1], kind[2]);
+            onlyItsOwnGroup(kind[0], kind[1]);
+        }
+        within();
+        joins();
+        registerZero();
+        Check.end();
+    }
+
+    /** The labels that a kind has under a mask, with P 1, X 2, Y 4 and M m. */
+    private static int labels(int mask, int has, int m) {
+        int named = mask & has;
+        return ((named & 1) != 0 ? P : 0) | ((named & 2) != 0 ? X : 0) | ((named & 4) != 0 ? Y : 0)
+            | ((named & 8) != 0 ? m : 0);
+    }
+
+    /** As PromiseTest's first rules need it: X 2, Y 4, M 11, by the group's first kind. */
+    static int joined(int mask, int p, int group) {
+        int has = new int[] {7, 11, 15, 15, 7, 1, 3, 3, 9}[group];
+        return labels(mask & ~1, has, 11) | ((mask & 1) != 0 ? p : 0);
+    }
+
+    private static LabelledCore core(int w, int m) {
+        return PromiseTest.coreWithLabels(w, P, X, Y, m);
+    }
+
+    private static void resultsAndNexts(int w, int group, int has) {
+        for (int mask = 0; mask < 16; mask++) {
+            LabelledCore core = core(w, 8);
+            core.rule(group, mask, 15 - mask, 0, 0);
+            Check.due("it is done", 1, core.run(1));
+            if (group != 4) {
+                Check.due(w + ": RESULT " + mask, labels(mask, has, 8), put(core, group) >> 32);
+            }
+            Check.due(w + ": NEXT " + (15 - mask), labels(15 - mask, has, 8), core.told(2));
+            Check.due(w + ": a miss for it and the branch before", 2, core.told(4));
+        }
+    }
+
+    private static long put(LabelledCore core, int group) {
+        if (group == 2 || group == 3) {
+            return core.memory(0);
+        }
+        return group == 7 ? core.output(0) : core.register(5);
+    }
+
+    private static void leftsAndRights(int w, int group, int has) {
+        for (int left = 0; left < 16; left++) {
+            for (int right = 0; right < 16; right++) {
+                LabelledCore core = core(w, 8);
+                core.rule(group, 15, 15, left, right);
+                int over = labels(left, has, 8) & ~labels(right, has, 8);
+                Check.due(w + ": LEFT " + left + ", RIGHT " + right, over == 0 ? 1 : 0, core.run(1));
+                Check.due(w + ": its outcome", over == 0 ? 0 : 2, core.told(0));
+                Check.due(w + ": its misses", 2, core.told(4));
+                Check.due(w + ": what is known", over == 0 ? 1 : 0, core.told(5));
+            }
+        }
+    }
+
+    private static void onlyItsOwnGroup(int w, int group) {
+        for (int other = 0; other <= 8; other++) {
+            LabelledCore core = core(w, 3);
+            core.rule(other, 0, 0, 1, 0);
+            Check.due(w + ": a rule of group " + other + " forbids P", other == group ? 0 : 1, core.run(1));
+        }
+    }
+
+    private static void within() {
+        int[][] cases = {
+            {0, 0, 1}, {0, -1, 1}, {-1, -1, 1}, {-1, 0, 0}, {Integer.MIN_VALUE, Integer.MIN_VALUE, 1},
+            {Integer.MIN_VALUE, Integer.MAX_VALUE, 0}, {Integer.MAX_VALUE, Integer.MIN_VALUE, 0},
+            {5, 7, 1}, {7, 5, 0}, {2, 4, 0}, {4, 2, 0}, {6, 6, 1}, {Integer.MIN_VALUE, -1, 1}
+        };
+        for (int[] c : cases) {
+            LabelledCore core = PromiseTest.coreWithLabels(Asm.branch(0, 1, 2, 8), 0, c[0], c[1], 0);
+            core.rule(4, 0, 0, 2, 4);
+            Check.due(c[0] + " within " + c[1], c[2], core.run(1));
+        }
+    }
+
+    private static void joins() {
+        LabelledCore core = PromiseTest.coreWithLabels(Asm.add(5, 1, 2), 0x10, 0x80000011, 0x01000000, 0);
+        core.run(1);
+        Check.due("bits that two have", 0x81000011, (int) (core.register(5) >> 32));
+        Check.due("the sum", 4105, (int) core.register(5));
+    }
+
+    private static void registerZero() {
+        LabelledCore core = PromiseTest.coreWithLabels(Asm.add(0, 1, 2), 1, 2, 4, 0);
+        Check.due("into register 0", 1, core.run(1));
+        Check.due("it is lost, and its label too", 0, core.register(0));
+        LabelledCore read = PromiseTest.coreWithLabels(Asm.add(5, 0, 0), 0, 2, 4, 0);
+        read.run(1);
+        Check.due("register 0 has the label 0", 0, read.register(5));
+        int[] others = {Asm.load(2, 0, 1, 0), Asm.call(0, 8), Asm.leap(0, 1, 0), Asm.in(0)};
+        for (int w : others) {
+            LabelledCore lost = PromiseTest.coreWithLabels(w, 1, 2, 4, 8);
+            Check.due("done", 1, lost.run(1));
+            Check.due("lost", 0, lost.register(0));
+        }
+    }
+}
