@@ -8,6 +8,9 @@ public final class CacheTest {
         }
         useDoesNotKeepAKey();
         whatIsKnownHasItsLabels();
+        labelsOfTheKeyItself();
+        nextOfWhatIsKnown();
+        smallerOnceItWentRound();
         Check.end();
     }
 
@@ -124,5 +127,67 @@ public final class CacheTest {
             Check.due("turn " + i, Check.pair(i, i % 7), core.output(i));
         }
         Check.due("two keys for each label and one for the CALL", 15, core.told(4));
+    }
+
+    /** Keys that have P, Y or M alone, each seen twice: the second time they are known by these labels. */
+    private static void labelsOfTheKeyItself() {
+        LabelledCore withY = loop(Asm.add(5, 0, 2));
+        withY.set(2, 0, 4);
+        Check.due("Y 4", 2, missesOfOneMore(withY));
+        Check.due("Y 4 again", 0, missesOfOneMore(withY));
+        withY.set(2, 0, 0);
+        Check.due("Y 0", 1, missesOfOneMore(withY));
+
+        LabelledCore withM = loop(Asm.load(2, 5, 9, 0));
+        Check.due("M 96", 2, missesOfOneMore(withM));
+        Check.due("M 96 again", 0, missesOfOneMore(withM));
+        withM.poke(0, 0, 0);
+        Check.due("M 0", 1, missesOfOneMore(withM));
+
+        LabelledCore withP = Asm.core(Asm.branch(0, 1, 1, 4), Asm.addI(2, 0, 0), Asm.call(0, -4));
+        withP.set(1, 0, 16);
+        Check.due("P 16 behind the branch", 9, withP.run(9));
+        Check.due("known with P 16", 3, withP.told(4));
+    }
+
+    /** A LEAP known twice gives the PC its own label back, not that of what came between. */
+    private static void nextOfWhatIsKnown() {
+        LabelledCore core = Asm.core(Asm.addI(2, 0, 0), Asm.leap(0, 1, 0));
+        core.rule(0, 0, 0, 0, 0);
+        core.rule(6, 0, 2, 0, 0);
+        core.set(1, 0, 32);
+        for (int turn = 0; turn < 5; turn++) {
+            core.run(1);
+            Check.due("NEXT of WORK is nothing", 0, core.told(2));
+            core.run(1);
+            Check.due("NEXT of LEAP is X", 32, core.told(2));
+        }
+        Check.due("WORK with P 0 and 32, and LEAP", 3, core.told(4));
+    }
+
+    private static void smallerOnceItWentRound() {
+        LabelledCore core = new LabelledCore();
+        for (int i = 0; i < 64; i++) {
+            core.word(Asm.addI(2, 1, 0));
+        }
+        for (int key = 0; key < 26; key++) {
+            core.set(1, 0, key);
+            core.run(1);
+        }
+        core.cache(2);
+        for (int key = 100; key < 103; key++) {
+            core.set(1, 0, key);
+            core.run(1);
+        }
+        Check.due("misses", 29, core.told(4));
+        Check.due("known", 2, core.told(5));
+        core.set(1, 0, 101);
+        core.run(1);
+        core.set(1, 0, 102);
+        core.run(1);
+        Check.due("the last two are known", 29, core.told(4));
+        core.set(1, 0, 100);
+        core.run(1);
+        Check.due("the first is not", 30, core.told(4));
     }
 }

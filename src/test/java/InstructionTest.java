@@ -135,6 +135,13 @@ public final class InstructionTest {
         Check.due("byte 3", 0xDD223344L, core.memory(4));
         Check.due("the next word stays", 0x11223344L, core.memory(5));
         Check.due("the register stays", 0xAABBCCDDL, core.register(7));
+        for (int place = 0; place < 4; place++) {
+            LabelledCore full = Asm.core(Asm.store(0, 0, 9, place));
+            full.set(9, 4096, 0);
+            full.poke(0, -1, 0);
+            full.run(1);
+            Check.due("all bits of byte " + place, 0xFFFFFFFFL - (255L << 8 * place), full.memory(0));
+        }
     }
 
     /** All addresses about the edges of memory, by numbers with either sign. */

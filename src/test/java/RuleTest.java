@@ -37,10 +37,10 @@ public final class RuleTest {
             | ((named & 8) != 0 ? m : 0);
     }
 
-    /** As PromiseTest's first rules need it: X 2, Y 4, M 11, by the group's first kind. */
-    static int joined(int mask, int p, int group) {
+    /** The same by the group's number, for a kind that has all labels that its group can have. */
+    static int joined(int mask, int group, int m) {
         int has = new int[] {7, 11, 15, 15, 7, 1, 3, 3, 9}[group];
-        return labels(mask & ~1, has, 11) | ((mask & 1) != 0 ? p : 0);
+        return labels(mask, has, m);
     }
 
     private static LabelledCore core(int w, int m) {
