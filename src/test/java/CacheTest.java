@@ -2,10 +2,10 @@
 public final class CacheTest {
     public static void main(String[] args) {
         everyPartOfTheKey();
-        notAllowedIsNotInstalled();
-        for (int entries = 1; entries <= 64; entries++) {
-            firstInFirstOut(entries);
-        }
+        sixteenAtFirst();
+        asManyAsThereAreEntries();
+        notAllowedTakesNoPlace();
+        otherCallsLeaveTheKeys();
         useDoesNotKeepAKey();
         whatIsKnownHasItsLabels();
         labelsOfTheKeyItself();
@@ -65,56 +65,95 @@ public final class CacheTest {
         Check.due("P is a part: all three miss again", 3 + 3, counter.told(4));
     }
 
-    private static void notAllowedIsNotInstalled() {
-        LabelledCore core = Asm.core(Asm.addI(5, 0, 0), Asm.out(1));
-        core.rule(7, 3, 1, 2, 0);
-        core.set(1, 1, 1);
-        Check.due("one is done", 1, core.run(5));
-        Check.due("one is not allowed", 2, core.told(0));
-        Check.due("two misses", 2, core.told(4));
-        Check.due("one key", 1, core.told(5));
-    }
-
-    /** Register 1's label makes the key of an OUT; a CALL is never seen as the program is straight. */
-    private static void firstInFirstOut(int entries) {
+    /** Words that make a key of register 1's label; the program is straight, so that no CALL takes an entry. */
+    private static LabelledCore straight(int words) {
         LabelledCore core = new LabelledCore();
-        for (int i = 0; i < 256; i++) {
+        for (int i = 0; i < words; i++) {
             core.word(Asm.addI(2, 1, 0));
         }
-        core.cache(entries);
-        int calls = 0;
-        for (int key = 0; key <= entries; key++) {
-            core.set(1, 0, key);
-            core.run(1);
-            calls++;
-            Check.due("misses", calls, core.told(4));
-            Check.due("known", Math.min(calls, entries), core.told(5));
+        return core;
+    }
+
+    private static void step(LabelledCore core, int key) {
+        core.set(1, 0, key);
+        Check.due("the step with the label " + key, 1, core.run(1));
+    }
+
+    private static void firstInFirstOut(LabelledCore core, int entries) {
+        for (int key = 0; key < entries; key++) {
+            step(core, key);
         }
+        Check.due("each was a miss", entries, core.told(4));
+        Check.due("all are known", entries, core.told(5));
+        step(core, entries);
+        Check.due("one key more", entries + 1, core.told(4));
+        Check.due("as many are known", entries, core.told(5));
         for (int key = entries; key >= 1; key--) {
-            core.set(1, 0, key);
-            core.run(1);
+            step(core, key);
         }
-        Check.due("the last " + entries + " are known", calls, core.told(4));
-        core.set(1, 0, 0);
-        core.run(1);
-        Check.due("the first one gave way", calls + 1, core.told(4));
-        core.set(1, 0, 1);
-        core.run(1);
-        Check.due("now the second one did", calls + 2, core.told(4));
+        Check.due("the last " + entries + " are known", entries + 1, core.told(4));
+        step(core, 0);
+        Check.due("the first one gave way", entries + 2, core.told(4));
+        step(core, 1);
+        Check.due("now the second one did", entries + 3, core.told(4));
+        step(core, 0);
+        boolean two = entries > 1;
+        Check.due("the one before it", entries + (two ? 3 : 4), core.told(4));
         Check.due("known", entries, core.told(5));
     }
 
-    private static void useDoesNotKeepAKey() {
-        LabelledCore core = new LabelledCore();
-        for (int i = 0; i < 16; i++) {
-            core.word(Asm.addI(2, 1, 0));
+    /** "THE CACHE has 16 entries at first". */
+    private static void sixteenAtFirst() {
+        firstInFirstOut(straight(40), 16);
+    }
+
+    /** "among the last keys that were installed, as many as there are entries": 1 to 64. */
+    private static void asManyAsThereAreEntries() {
+        for (int entries = 1; entries <= 64; entries++) {
+            LabelledCore core = straight(2 * entries + 4);
+            core.cache(entries);
+            firstInFirstOut(core, entries);
         }
+    }
+
+    /** "installed if it is allowed": what is not allowed takes no place, with room and without. */
+    private static void notAllowedTakesNoPlace() {
+        for (int entries = 1; entries <= 3; entries++) {
+            LabelledCore core = Asm.core(Asm.addI(5, 0, 0), Asm.call(5, 4), Asm.out(1));
+            core.cache(entries);
+            core.rule(7, 3, 1, 2, 0);
+            core.set(1, 1, 1);
+            Check.due("two are done", 2, core.run(5));
+            Check.due("one is not allowed", 2, core.told(0));
+            Check.due("three misses", 3, core.told(4));
+            Check.due("keys in " + entries + " entries", Math.min(2, entries), core.told(5));
+        }
+    }
+
+    /** Keys go by begin(), clear(), rule() and cache() alone. */
+    private static void otherCallsLeaveTheKeys() {
+        LabelledCore core = loop(Asm.in(1));
+        core.input(1, 0);
+        core.input(2, 0);
+        Check.due("both miss", 2, missesOfOneMore(core));
+        core.word(Asm.halt());
+        core.set(9, 1, 1);
+        core.poke(63, 1, 1);
+        core.input(3, 0);
+        core.run(0);
+        Seen.of(core);
+        Check.due("both are known", 2, core.told(5));
+        Check.due("and no miss", 0, missesOfOneMore(core));
+    }
+
+    /** "the last keys that were installed": a key that is used again is not installed again. */
+    private static void useDoesNotKeepAKey() {
+        LabelledCore core = straight(10);
         core.cache(3);
         int[] labels = {1, 2, 3, 1, 4, 1, 2, 3, 4, 1};
         int[] misses = {1, 2, 3, 3, 4, 5, 6, 7, 8, 9};
         for (int i = 0; i < labels.length; i++) {
-            core.set(1, 0, labels[i]);
-            core.run(1);
+            step(core, labels[i]);
             Check.due("step " + i, misses[i], core.told(4));
         }
     }
@@ -166,28 +205,20 @@ public final class CacheTest {
     }
 
     private static void smallerOnceItWentRound() {
-        LabelledCore core = new LabelledCore();
-        for (int i = 0; i < 64; i++) {
-            core.word(Asm.addI(2, 1, 0));
-        }
+        LabelledCore core = straight(64);
         for (int key = 0; key < 26; key++) {
-            core.set(1, 0, key);
-            core.run(1);
+            step(core, key);
         }
         core.cache(2);
         for (int key = 100; key < 103; key++) {
-            core.set(1, 0, key);
-            core.run(1);
+            step(core, key);
         }
         Check.due("misses", 29, core.told(4));
         Check.due("known", 2, core.told(5));
-        core.set(1, 0, 101);
-        core.run(1);
-        core.set(1, 0, 102);
-        core.run(1);
+        step(core, 101);
+        step(core, 102);
         Check.due("the last two are known", 29, core.told(4));
-        core.set(1, 0, 100);
-        core.run(1);
+        step(core, 100);
         Check.due("the first is not", 30, core.told(4));
     }
 }

@@ -8,10 +8,13 @@ import java.util.TreeSet;
 
 /** The public face, and what rules 1, 5 and 11 of LANGUAGE.md say of the class's members. */
 public final class FaceTest {
+    private static final String ILLEGAL = " throws IllegalArgumentException";
     private static final Set<String> FACE = Set.of(
-        "int word(int)", "int clear()", "void begin()", "void rule(int, int, int, int, int)", "int cache(int)",
-        "void set(int, int, int)", "void poke(int, int, int)", "int input(int, int)", "int run(int)",
-        "long register(int)", "long memory(int)", "long output(int)", "int told(int)");
+        "int word(int)", "int clear()", "void begin()", "void rule(int, int, int, int, int)" + ILLEGAL,
+        "int cache(int)" + ILLEGAL, "void set(int, int, int)" + ILLEGAL, "void poke(int, int, int)" + ILLEGAL,
+        "int input(int, int)", "int run(int)" + ILLEGAL, "long register(int)" + ILLEGAL,
+        "long memory(int)" + ILLEGAL, "long output(int) throws IndexOutOfBoundsException",
+        "int told(int)" + ILLEGAL);
 
     public static void main(String[] args) {
         Class<?> face = LabelledCore.class;
@@ -31,7 +34,11 @@ public final class FaceTest {
             text.append(between).append(type);
             between = ", ";
         }
-        return text.append(")").toString();
+        text.append(")");
+        for (Class<?> type : method.getExceptionTypes()) {
+            text.append(" throws ").append(type.getSimpleName());
+        }
+        return text.toString();
     }
 
     private static void methods(Class<?> face) {

@@ -7,10 +7,14 @@ public final class InstructionTest {
 
     public static void main(String[] args) {
         work();
+        wraps();
+        shiftsAtTheEdges();
+        lessAtTheEdges();
         workWithNumber();
         shiftsByNumber();
         uppers();
         loads();
+        everyByteIsLoaded();
         stores();
         addresses();
         branches();
@@ -67,6 +71,60 @@ public final class InstructionTest {
         }
     }
 
+    /** "Sums and differences wrap". */
+    private static void wraps() {
+        int add = Asm.work(0, 0, 31, 6, 7);
+        int sub = Asm.work(0, 32, 31, 6, 7);
+        Check.due("the greatest and 1", Integer.MIN_VALUE, worked(add, Integer.MAX_VALUE, 1));
+        Check.due("the least and -1", Integer.MAX_VALUE, worked(add, Integer.MIN_VALUE, -1));
+        Check.due("the least twice", 0, worked(add, Integer.MIN_VALUE, Integer.MIN_VALUE));
+        Check.due("-1 and 1", 0, worked(add, -1, 1));
+        Check.due("the least less 1", Integer.MAX_VALUE, worked(sub, Integer.MIN_VALUE, 1));
+        Check.due("the greatest less -1", Integer.MIN_VALUE, worked(sub, Integer.MAX_VALUE, -1));
+        Check.due("0 less the least", Integer.MIN_VALUE, worked(sub, 0, Integer.MIN_VALUE));
+        Check.due("0 less 1", -1, worked(sub, 0, 1));
+        Check.due("the greatest and I 2047",
+            Integer.MIN_VALUE + 2046, worked(Asm.addI(31, 6, 2047), Integer.MAX_VALUE, 0));
+        Check.due("the least and I -2048",
+            Integer.MAX_VALUE - 2047, worked(Asm.addI(31, 6, -2048), Integer.MIN_VALUE, 0));
+    }
+
+    /** "sll, srl (zeros come in) and sra (the sign comes in) by the lowest five bits": 0, 31, 32 and beyond. */
+    private static void shiftsAtTheEdges() {
+        int sll = Asm.work(1, 0, 31, 6, 7);
+        int srl = Asm.work(5, 0, 31, 6, 7);
+        int sra = Asm.work(5, 32, 31, 6, 7);
+        for (int by : new int[] {31, 63, -1, Integer.MAX_VALUE}) {
+            Check.due("sll by " + by, Integer.MIN_VALUE, worked(sll, -1, by));
+            Check.due("srl by " + by, 1, worked(srl, -1, by));
+            Check.due("sra by " + by, -1, worked(sra, Integer.MIN_VALUE, by));
+            Check.due("sra of a number without a sign by " + by, 0, worked(sra, Integer.MAX_VALUE, by));
+        }
+        for (int by : new int[] {0, 32, 64, -32, Integer.MIN_VALUE}) {
+            for (int w : new int[] {sll, srl, sra}) {
+                Check.due("a shift by " + by, -5, worked(w, -5, by));
+            }
+        }
+    }
+
+    /** "slt and sltu answer 1 if the first one is less (sltu: without signs), else 0". */
+    private static void lessAtTheEdges() {
+        int slt = Asm.work(2, 0, 31, 6, 7);
+        int sltu = Asm.work(3, 0, 31, 6, 7);
+        int[][] cases = {
+            {0, 0, 0, 0}, {-1, -1, 0, 0}, {Integer.MIN_VALUE, Integer.MIN_VALUE, 0, 0}, {-1, 0, 1, 0}, {0, -1, 0, 1},
+            {Integer.MIN_VALUE, Integer.MAX_VALUE, 1, 0}, {Integer.MAX_VALUE, Integer.MIN_VALUE, 0, 1},
+            {Integer.MAX_VALUE - 1, Integer.MAX_VALUE, 1, 1}, {-2, -1, 1, 1}, {1, 0, 0, 0}
+        };
+        for (int[] c : cases) {
+            Check.due("slt of " + c[0] + " and " + c[1], c[2], worked(slt, c[0], c[1]));
+            Check.due("sltu of " + c[0] + " and " + c[1], c[3], worked(sltu, c[0], c[1]));
+        }
+        Check.due("I has its sign before sltu leaves it aside",
+            1, worked(Asm.workI(3, 31, 6, -1), Integer.MAX_VALUE, 0));
+        Check.due("sltu of 2047 and I 2047", 0, worked(Asm.workI(3, 31, 6, 2047), 2047, 0));
+    }
+
     private static void workWithNumber() {
         for (int f : new int[] {0, 2, 3, 4, 6, 7}) {
             for (int i : new int[] {0, 1, 31, 1024, 1055, 2047, -1, -2, -1024, -2048}) {
@@ -115,6 +173,21 @@ public final class InstructionTest {
         }
         Check.due("into the register of the address", 0x80FF7F01L, core.register(9));
         Check.due("memory stays", 0x80FF7F01L, core.memory(10));
+    }
+
+    /** "F 0 the byte with its sign, F 4 the byte": all 256 bytes in all four places. */
+    private static void everyByteIsLoaded() {
+        for (int value = 0; value < 256; value++) {
+            for (int place = 0; place < 4; place++) {
+                LabelledCore core = Asm.core(Asm.load(0, 1, 9, place), Asm.load(4, 2, 9, place));
+                core.set(9, 4096, 0);
+                core.poke(0, ~(~value << 8 * place & 255 << 8 * place), 0);
+                Check.due("both loads", 2, core.run(2));
+                int signed = value < 128 ? value : value - 256;
+                Check.due("the byte " + value + " with its sign", signed, (int) core.register(1));
+                Check.due("the byte " + value, value, core.register(2));
+            }
+        }
     }
 
     private static void stores() {
@@ -209,15 +282,13 @@ public final class InstructionTest {
         }
     }
 
+    /** "a number with a sign, bit 12 ... 4 to 1 ..., and 0": every offset from -4096 to 4094. */
     private static void branchOffsets() {
-        for (int bit = 1; bit <= 12; bit++) {
-            int offset = bit == 12 ? -4096 : 1 << bit;
-            LabelledCore core = Asm.core(Asm.branch(0, 0, 0, offset));
-            Check.due("branch", 1, core.run(1));
-            Check.due("branch by " + offset, offset, core.told(1));
+        for (int offset = -4096; offset <= 4094; offset += 2) {
+            LabelledCore core = Asm.core(Asm.addI(0, 0, 0), Asm.branch(0, 0, 0, offset));
+            Check.due("branch", 2, core.run(2));
+            Check.due("branch by " + offset, 4 + offset, core.told(1));
             Check.due("done, wherever it goes", 0, core.told(0));
-            Check.due("no step more", 0, core.run(1));
-            Check.due("no word there", 4, core.told(0));
         }
         LabelledCore still = Asm.core(Asm.branch(0, 0, 0, 0));
         Check.due("a branch by 0", 1000, still.run(1000));
@@ -227,16 +298,29 @@ public final class InstructionTest {
         Check.due("at its end", 8, back.told(1));
     }
 
+    /** The same for CALL: the least, the greatest, those by 0 and 2, each bit by itself and each one missing. */
     private static void calls() {
-        for (int bit = 1; bit <= 20; bit++) {
-            int offset = bit == 20 ? -(1 << 20) : 1 << bit;
-            LabelledCore core = Asm.core(Asm.addI(0, 0, 0), Asm.call(9, offset));
-            Check.due("call", 2, core.run(2));
-            Check.due("call by " + offset, 4 + offset, core.told(1));
-            Check.due("the address behind it", 8, core.register(9));
+        called(-1048576);
+        called(1048574);
+        called(0);
+        called(-2);
+        for (int bit = 1; bit < 20; bit++) {
+            called(1 << bit);
+            called(-2 - (1 << bit));
+            called(1048574 - (1 << bit));
+            called((1 << bit) - 1048576);
         }
     }
 
+    private static void called(int offset) {
+        LabelledCore core = Asm.core(Asm.addI(0, 0, 0), Asm.call(9, offset));
+        Check.due("call", 2, core.run(2));
+        Check.due("call by " + offset, 4 + offset, core.told(1));
+        Check.due("the address behind it", 8, core.register(9));
+        Check.due("done, wherever it goes", 0, core.told(0));
+    }
+
+    /** "the PC becomes register A and I together with its lowest bit 0": odd sums, both signs, sums that wrap. */
     private static void leaps() {
         leapt(100, 0, 100);
         leapt(101, 0, 100);
@@ -245,6 +329,9 @@ public final class InstructionTest {
         leapt(0, -2048, -2048);
         leapt(-1, 2047, 2046);
         leapt(Integer.MAX_VALUE, 1, Integer.MIN_VALUE);
+        leapt(Integer.MIN_VALUE, -1, Integer.MAX_VALUE - 1);
+        leapt(-1, 1, 0);
+        leapt(1, 0, 0);
         LabelledCore same = Asm.core(Asm.addI(1, 0, 41), Asm.leap(1, 1, 2));
         same.run(2);
         Check.due("D is A: the old one says where", 42, same.told(1));
@@ -272,24 +359,19 @@ public final class InstructionTest {
         Check.due("which leaves D alone", Integer.toUnsignedLong(-7), core.register(30));
     }
 
-    /** All codes with all F and the G that matter: done, HALT or none. */
+    /** All codes with all F and all G: done, HALT or none. Memory's instructions go to a word in its middle. */
     private static void whichWordsAreInstructions() {
-        LabelledCore core = new LabelledCore();
         for (int code = 0; code < 128; code++) {
             for (int f = 0; f < 8; f++) {
-                for (int g : new int[] {0, 1, 16, 31, 32, 33, 64, 96, 127}) {
+                for (int g = 0; g < 128; g++) {
                     int w = Asm.fields(code, 1, f, 9, 2, g);
-                    int outcome = outcomeOf(code, f, g);
-                    if (code % 32 == 0 && f == 0 && g == 0) {
-                        core = new LabelledCore();
-                    }
-                    core.clear();
-                    core.word(w);
-                    core.set(9, 4096 + 128 - (code == 3 ? w >> 20 : w >> 25 << 5 | 1) + (f == 2 ? 0 : 1), 0);
+                    int offset = code == 3 ? w >> 20 : w >> 25 << 5 | 1;
+                    LabelledCore core = Asm.core(w);
+                    core.set(9, 4096 + 128 - offset, 0);
                     core.input(1, 0);
-                    String what = "code " + code + " F " + f + " G " + g;
-                    Check.due(what + " is done", outcome == 0 ? 1 : 0, core.run(1));
-                    Check.due(what + " outcome", outcome, core.told(0));
+                    int outcome = outcomeOf(code, f, g);
+                    Check.due(w + " is done", outcome == 0 ? 1 : 0, core.run(1));
+                    Check.due(w + ", its outcome", outcome, core.told(0));
                 }
             }
         }

@@ -1,4 +1,6 @@
-/** The promises 1 to 14, one method each: ordinary inputs, edges, wrong inputs. */
+import java.util.Arrays;
+
+/** The promises 1 to 14 with ordinary inputs; PromiseBoundaryTest has their edges and wrong inputs. */
 public final class PromiseTest {
     private static final int[] FIRST_RULES = {
         7, 1, 0, 0, 11, 1, 0, 0, 7, 1, 3, 8, 15, 1, 3, 8, 0, 7, 0, 0, 1, 1, 0, 0, 1, 3, 0, 0, 3, 1, 0, 0, 9, 1, 0, 0
@@ -12,7 +14,6 @@ public final class PromiseTest {
         promise3();
         promise4();
         promise5();
-        promise5Wrong();
         promise6();
         promise7();
         promise8();
@@ -36,20 +37,6 @@ public final class PromiseTest {
         Check.due("store", 240160547, Asm.store(0, 5, 1, 254));
         Check.due("upper", 4279, Asm.upper(1, 1));
         Check.due("upper from the PC", 4375, Asm.upperFromPc(2, 1));
-    }
-
-    /** All that told() and the banks show when nothing has happened since begin(). */
-    static void dueAnew(String when, LabelledCore core) {
-        for (int what = 0; what <= 8; what++) {
-            Check.due(when + ": told(" + what + ")", 0, core.told(what));
-        }
-        for (int i = 0; i < 32; i++) {
-            Check.due(when + ": register(" + i + ")", 0, core.register(i));
-        }
-        for (int i = 0; i < 64; i++) {
-            Check.due(when + ": memory(" + i + ")", 0, core.memory(i));
-        }
-        Check.outOfBounds(when + ": output(0)", () -> core.output(0));
     }
 
     /** Leaves something behind in all that begin() resets. */
@@ -78,14 +65,18 @@ public final class PromiseTest {
 
     private static void promise1() {
         LabelledCore core = new LabelledCore();
-        dueAnew("a new object", core);
+        Seen.dueAnew("a new object", core);
         Check.due("entries at first", 16, core.cache(16));
         Check.due("no program", 0, core.clear());
         firstRules();
     }
 
+    static int[] firstRule(int group) {
+        return Arrays.copyOfRange(FIRST_RULES, 4 * group, 4 * group + 4);
+    }
+
     /** Each group's first rule, seen by the labels P 1, X 2, Y 4 and M 8, or 11 where P and X must be within it. */
-    private static void firstRules() {
+    static void firstRules() {
         int[] samples = {
             Asm.add(5, 1, 2), Asm.load(2, 5, 1, 0), Asm.store(2, 2, 1, 0), Asm.store(0, 2, 1, 0),
             Asm.branch(0, 1, 2, 8), Asm.call(5, 8), Asm.leap(5, 1, 0), Asm.out(1), Asm.in(5)
@@ -137,16 +128,13 @@ public final class PromiseTest {
 
     private static void promise2() {
         LabelledCore core = new LabelledCore();
-        for (int i = 1; i <= 256; i++) {
-            Check.due("word " + i, i, core.word(i == 256 ? Asm.halt() : Asm.addI(1, 1, 1)));
-        }
-        Check.due("word 257", LabelledCore.NONE, core.word(0));
-        Check.due("word 258", -1, core.word(0));
-        Check.due("all words run", 255, core.run(1000));
-        Check.due("the last one is HALT", 1, core.told(0));
-        Check.due("and stands at 1020", 1020, core.told(1));
-        Check.due("the program has 256 words", 256, core.clear());
-        Check.due("word again", 1, core.word(0));
+        Check.due("a first word", 1, core.word(Asm.addI(1, 0, 3)));
+        Check.due("a word behind it", 2, core.word(Asm.addI(1, 1, 4)));
+        Check.due("and another", 3, core.word(Asm.halt()));
+        Check.due("they run in their order", 2, core.run(9));
+        Check.due("to the last one", 8, core.told(1));
+        Check.due("register", 7, core.register(1));
+        Check.due("three words", 3, core.clear());
     }
 
     private static void promise2WhileRunning() {
@@ -164,7 +152,7 @@ public final class PromiseTest {
     private static void promise3() {
         LabelledCore core = used();
         Check.due("clear()", 4, core.clear());
-        dueAnew("behind clear()", core);
+        Seen.dueAnew("behind clear()", core);
         Check.due("clear() again", 0, core.clear());
         Check.due("no word runs", 0, core.run(1));
         Check.due("no word is there", 4, core.told(0));
@@ -183,7 +171,7 @@ public final class PromiseTest {
     private static void promise4() {
         LabelledCore core = used();
         core.begin();
-        dueAnew("behind begin()", core);
+        Seen.dueAnew("behind begin()", core);
         core.input(-1, -2);
         Check.due("the program is still there", 3, core.run(9));
         Check.due("and its output", Check.pair(-1, -2), core.output(0));
@@ -225,34 +213,10 @@ public final class PromiseTest {
         Check.due("the outcome stays", 2, core.told(0));
     }
 
-    private static void promise5Wrong() {
-        LabelledCore core = Asm.core(Asm.out(1), Asm.call(0, -4));
-        core.set(1, 8, 4);
-        core.run(4);
-        Check.illegal("group -1", () -> core.rule(-1, 0, 0, 0, 0));
-        Check.illegal("group 9", () -> core.rule(9, 0, 0, 0, 0));
-        Check.illegal("the least group", () -> core.rule(Integer.MIN_VALUE, 0, 0, 0, 0));
-        for (int wrong : new int[] {-1, 16, 1 << 20, Integer.MIN_VALUE, Integer.MAX_VALUE}) {
-            Check.illegal("RESULT " + wrong, () -> core.rule(7, wrong, 0, 0, 0));
-            Check.illegal("NEXT " + wrong, () -> core.rule(7, 0, wrong, 0, 0));
-            Check.illegal("LEFT " + wrong, () -> core.rule(7, 0, 0, wrong, 0));
-            Check.illegal("RIGHT " + wrong, () -> core.rule(7, 0, 0, 0, wrong));
-        }
-        Check.due("what throws leaves the keys", 2, core.told(5));
-        core.rule(0, 0, 0, 0, 0);
-        core.run(1);
-        Check.due("what throws leaves the rule", Check.pair(8, 4), core.output(2));
-    }
-
     private static void promise6() {
         LabelledCore core = Asm.core(Asm.out(1), Asm.call(0, -4));
         core.run(4);
         Check.due("known", 2, core.told(5));
-        Check.illegal("0 entries", () -> core.cache(0));
-        Check.illegal("65 entries", () -> core.cache(65));
-        Check.illegal("-1 entries", () -> core.cache(-1));
-        Check.illegal("most entries", () -> core.cache(Integer.MAX_VALUE));
-        Check.due("what throws leaves the keys", 2, core.told(5));
         Check.due("16 at first", 16, core.cache(64));
         Check.due("no key is known", 0, core.told(5));
         Check.due("64 then", 64, core.cache(1));
@@ -275,11 +239,6 @@ public final class PromiseTest {
         }
         core.set(31, -1, -2);
         Check.due("again", Check.pair(-1, -2), core.register(31));
-        Check.illegal("register 0", () -> core.set(0, 1, 1));
-        Check.illegal("register 32", () -> core.set(32, 1, 1));
-        Check.illegal("register -1", () -> core.set(-1, 1, 1));
-        Check.due("register 0 stays 0", 0, core.register(0));
-        Check.due("31 stays", Check.pair(-1, -2), core.register(31));
         core.run(1);
         core.set(1, 3, 4);
         Check.due("with an outcome too", Check.pair(3, 4), core.register(1));
@@ -294,28 +253,22 @@ public final class PromiseTest {
         for (int i = 0; i < 64; i++) {
             Check.due("word " + i, Check.pair(3000 + i, -4000 - i), core.memory(i));
         }
-        Check.illegal("word -1", () -> core.poke(-1, 1, 1));
-        Check.illegal("word 64", () -> core.poke(64, 1, 1));
-        Check.illegal("an address", () -> core.poke(4096, 1, 1));
         core.poke(0, Integer.MIN_VALUE, Integer.MAX_VALUE);
         Check.due("again", Check.pair(Integer.MIN_VALUE, Integer.MAX_VALUE), core.memory(0));
     }
 
     private static void promise9() {
         LabelledCore core = Asm.core(Asm.in(1), Asm.out(1), Asm.call(0, -8));
-        for (int i = 1; i <= 64; i++) {
+        for (int i = 1; i <= 3; i++) {
             Check.due("input " + i, i, core.input(i, -i));
         }
-        Check.due("input 65", LabelledCore.NONE, core.input(65, -65));
-        Check.due("64 wait", 64, core.told(7));
         Check.due("one is taken", 1, core.run(1));
-        Check.due("there is room again", 64, core.input(100, 200));
-        Check.due("but for one", -1, core.input(101, 201));
-        Check.due("all are taken", 3 * 65 - 1, core.run(1000));
-        for (int i = 1; i <= 64; i++) {
+        Check.due("one comes behind", 3, core.input(100, 200));
+        Check.due("all are taken", 3 * 4 - 1, core.run(1000));
+        for (int i = 1; i <= 3; i++) {
             Check.due("first in, first out " + i, Check.pair(i, -i), core.output(i - 1));
         }
-        Check.due("the one that came behind", Check.pair(100, 200), core.output(64));
+        Check.due("the one that came behind", Check.pair(100, 200), core.output(3));
         Check.due("none waits", 0, core.told(7));
         Check.due("one more", 1, core.input(7, 0));
         Check.due("it goes on", 3, core.run(9));
@@ -323,27 +276,12 @@ public final class PromiseTest {
 
     private static void promise10() {
         LabelledCore core = Asm.core(Asm.addI(1, 1, 1), Asm.call(0, -4));
-        Check.illegal("-1 times", () -> core.run(-1));
-        Check.illegal("1001 times", () -> core.run(1001));
-        Check.illegal("most times", () -> core.run(Integer.MAX_VALUE));
         Check.due("nothing was done", 0, core.told(3));
-        Check.due("0 times", 0, core.run(0));
-        Check.due("0 times leaves the PC", 0, core.told(1));
         Check.due("1000 times", 1000, core.run(1000));
         Check.due("register", 500, core.register(1));
         Check.due("done", 1000, core.told(3));
         Check.due("3 times more", 3, core.run(3));
         Check.due("done in all", 1003, core.told(3));
-
-        LabelledCore off = new LabelledCore();
-        Check.due("0 times, no program", 0, off.run(0));
-        Check.due("0 times tells no outcome", 0, off.told(0));
-        Check.due("1 time, no program", 0, off.run(1));
-        Check.due("outcome", 4, off.told(0));
-
-        LabelledCore exact = Asm.core(Asm.addI(1, 1, 1));
-        Check.due("just the one", 1, exact.run(1));
-        Check.due("the step behind it was not tried", 0, exact.told(0));
     }
 
     private static void promise11() {
@@ -356,9 +294,6 @@ public final class PromiseTest {
         Check.due("32 bits of the number", 4294967295L, core.register(2));
         Check.due("the label's highest bit", -4294967296L, core.register(3));
         Check.due("both highest bits", Long.MIN_VALUE + 2147483648L, core.register(4));
-        Check.illegal("register -1", () -> core.register(-1));
-        Check.illegal("register 32", () -> core.register(32));
-        Check.illegal("the least register", () -> core.register(Integer.MIN_VALUE));
     }
 
     private static void promise12() {
@@ -371,43 +306,23 @@ public final class PromiseTest {
         Check.due("32 bits of the number", 4294967295L, core.memory(1));
         Check.due("the label's highest bit", -4294967296L, core.memory(62));
         Check.due("both highest bits", Long.MIN_VALUE + 2147483648L, core.memory(63));
-        Check.illegal("word -1", () -> core.memory(-1));
-        Check.illegal("word 64", () -> core.memory(64));
-        Check.illegal("an address", () -> core.memory(4096));
     }
 
     private static void promise13() {
         LabelledCore core = Asm.core(Asm.out(1), Asm.addI(1, 1, 1), Asm.call(0, -8));
-        Check.outOfBounds("none went out", () -> core.output(0));
         core.set(1, -2, -8);
         core.run(1);
         Check.due("the first one", Check.pair(-2, -8), core.output(0));
-        Check.outOfBounds("output(1)", () -> core.output(1));
-        Check.outOfBounds("output(-1)", () -> core.output(-1));
-        Check.outOfBounds("output(least)", () -> core.output(Integer.MIN_VALUE));
         core.run(1000);
         Check.due("256 went out", 256, core.told(6));
         for (int i = 0; i < 256; i++) {
             Check.due("value " + i, Check.pair(i - 2, -8), core.output(i));
         }
-        Check.outOfBounds("output(256)", () -> core.output(256));
-        core.begin();
-        Check.outOfBounds("output(0) behind begin()", () -> core.output(0));
     }
 
     private static void promise14() {
         LabelledCore core = used();
         Check.due("the kernel was never long", 0, core.told(8));
-        Check.illegal("told(9)", () -> core.told(9));
-        Check.illegal("told(-1)", () -> core.told(-1));
-        Check.illegal("told(most)", () -> core.told(Integer.MAX_VALUE));
-        Check.illegal("told(least)", () -> core.told(Integer.MIN_VALUE));
-
-        LabelledCore leapt = Asm.core(Asm.leap(0, 1, 0));
-        leapt.set(1, -4, -3);
-        leapt.run(1);
-        Check.due("a PC beyond all words", -4, leapt.told(1));
-        Check.due("all bits of its label", -3, leapt.told(2));
 
         LabelledCore busy = Asm.core(Asm.add(1, 1, 2), Asm.call(0, -4));
         for (int group = 0; group <= 8; group++) {

@@ -24,9 +24,8 @@ public final class RuleTest {
             leftsAndRights(kind[0], kind[1], kind[2]);
             onlyItsOwnGroup(kind[0], kind[1]);
         }
-        within();
-        joins();
-        registerZero();
+        branchHasNoResult();
+        labelsBeforeItIsDone();
         Check.end();
     }
 
@@ -89,38 +88,36 @@ public final class RuleTest {
         }
     }
 
-    private static void within() {
-        int[][] cases = {
-            {0, 0, 1}, {0, -1, 1}, {-1, -1, 1}, {-1, 0, 0}, {Integer.MIN_VALUE, Integer.MIN_VALUE, 1},
-            {Integer.MIN_VALUE, Integer.MAX_VALUE, 0}, {Integer.MAX_VALUE, Integer.MIN_VALUE, 0},
-            {5, 7, 1}, {7, 5, 0}, {2, 4, 0}, {4, 2, 0}, {6, 6, 1}, {Integer.MIN_VALUE, -1, 1}
-        };
-        for (int[] c : cases) {
-            LabelledCore core = PromiseTest.coreWithLabels(Asm.branch(0, 1, 2, 8), 0, c[0], c[1], 0);
-            core.rule(4, 0, 0, 2, 4);
-            Check.due(c[0] + " within " + c[1], c[2], core.run(1));
+    /** "What it puts into a register or memory, or what goes out": a BRANCH puts nothing anywhere. */
+    private static void branchHasNoResult() {
+        for (int f : new int[] {0, 1}) {
+            LabelledCore core = core(Asm.branch(f, 1, 2, 8), 8);
+            core.rule(4, 15, 0, 0, 0);
+            long[] due = Seen.of(core);
+            due[1] = f == 0 ? 8 : 12;
+            due[2] = 0;
+            due[3]++;
+            due[4]++;
+            due[5]++;
+            core.run(1);
+            Seen.due("BRANCH with F " + f + " and RESULT 15", due, core);
         }
     }
 
-    private static void joins() {
-        LabelledCore core = PromiseTest.coreWithLabels(Asm.add(5, 1, 2), 0x10, 0x80000011, 0x01000000, 0);
-        core.run(1);
-        Check.due("bits that two have", 0x81000011, (int) (core.register(5) >> 32));
-        Check.due("the sum", 4105, (int) core.register(5));
-    }
-
-    private static void registerZero() {
-        LabelledCore core = PromiseTest.coreWithLabels(Asm.add(0, 1, 2), 1, 2, 4, 0);
-        Check.due("into register 0", 1, core.run(1));
-        Check.due("it is lost, and its label too", 0, core.register(0));
-        LabelledCore read = PromiseTest.coreWithLabels(Asm.add(5, 0, 0), 0, 2, 4, 0);
-        read.run(1);
-        Check.due("register 0 has the label 0", 0, read.register(5));
-        int[] others = {Asm.load(2, 0, 1, 0), Asm.call(0, 8), Asm.leap(0, 1, 0), Asm.in(0)};
-        for (int w : others) {
-            LabelledCore lost = PromiseTest.coreWithLabels(w, 1, 2, 4, 8);
-            Check.due("done", 1, lost.run(1));
-            Check.due("lost", 0, lost.register(0));
-        }
+    /** "The labels that an instruction has": those before it is done, also where it changes one of them. */
+    private static void labelsBeforeItIsDone() {
+        LabelledCore same = core(Asm.add(1, 1, 1), 8);
+        same.run(1);
+        Check.due("A, B and D are one register", Check.pair(8192, P | X), same.register(1));
+        LabelledCore leap = core(Asm.leap(1, 1, 0), 8);
+        leap.run(1);
+        Check.due("D is A: the address behind", Check.pair(8, P), leap.register(1));
+        Check.due("D is A: NEXT by the old label", P | X, leap.told(2));
+        LabelledCore patch = core(Asm.store(0, 2, 1, 0), 11);
+        patch.run(1);
+        Check.due("the rest of the word keeps its label's bits", Check.pair(9, P | X | Y | 11), patch.memory(0));
+        LabelledCore store = core(Asm.store(2, 2, 1, 0), 27);
+        store.run(1);
+        Check.due("a whole word loses them", Check.pair(9, P | X | Y), store.memory(0));
     }
 }
