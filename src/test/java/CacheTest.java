@@ -27,6 +27,7 @@ public final class CacheTest {
         return core.told(4) - before;
     }
 
+    /** "The KEY of an instruction are its group and its four labels". */
     private static void everyPartOfTheKey() {
         LabelledCore core = loop(Asm.store(2, 1, 9, 0));
         core.rule(2, 8, 1, 0, 0);
@@ -158,6 +159,7 @@ public final class CacheTest {
         }
     }
 
+    /** A known key gives the labels that were worked out for it, not those of another one. */
     private static void whatIsKnownHasItsLabels() {
         LabelledCore core = Asm.core(Asm.addI(2, 1, 0), Asm.out(2), Asm.call(0, -8));
         for (int i = 0; i < 60; i++) {
@@ -204,6 +206,7 @@ public final class CacheTest {
         Check.due("WORK with P 0 and 32, and LEAP", 3, core.told(4));
     }
 
+    /** "as many as there are entries": fewer than before, once the oldest keys had given way. */
     private static void smallerOnceItWentRound() {
         LabelledCore core = straight(64);
         for (int key = 0; key < 26; key++) {

@@ -58,6 +58,7 @@ public final class InstructionTest {
         return (int) core.register(31);
     }
 
+    /** "Code 51 with G 0 and F 0 to 7 ..., with G 32: F 0 sub, F 5 sra, of the registers A and B into D". */
     private static void work() {
         int[][] kinds = {{0, 0}, {1, 0}, {2, 0}, {3, 0}, {4, 0}, {5, 0}, {6, 0}, {7, 0}, {0, 32}, {5, 32}};
         for (int[] kind : kinds) {
@@ -125,6 +126,7 @@ public final class InstructionTest {
         Check.due("sltu of 2047 and I 2047", 0, worked(Asm.workI(3, 31, 6, 2047), 2047, 0));
     }
 
+    /** "of register A and I", "a number of 12 bits with its sign": from -2048 to 2047. */
     private static void workWithNumber() {
         for (int f : new int[] {0, 2, 3, 4, 6, 7}) {
             for (int i : new int[] {0, 1, 31, 1024, 1055, 2047, -1, -2, -1024, -2048}) {
@@ -136,6 +138,7 @@ public final class InstructionTest {
         }
     }
 
+    /** "of register A and B (0 to 31)". */
     private static void shiftsByNumber() {
         for (int by = 0; by < 32; by++) {
             for (int a : NUMBERS) {
@@ -146,6 +149,7 @@ public final class InstructionTest {
         }
     }
 
+    /** "the word with its lowest 12 bits 0; code 23: this and the PC together". */
     private static void uppers() {
         for (int bits : new int[] {0, 1, 0x80000, 0xFFFFF, 0x12345}) {
             LabelledCore core = Asm.core(Asm.upper(1, bits), Asm.upperFromPc(2, bits), Asm.upperFromPc(3, bits));
@@ -156,6 +160,7 @@ public final class InstructionTest {
         }
     }
 
+    /** "at the address of register A and I together, into D": also where D is A. */
     private static void loads() {
         LabelledCore core = Asm.core(
             Asm.load(2, 1, 9, 0),
@@ -190,6 +195,7 @@ public final class InstructionTest {
         }
     }
 
+    /** "the lowest byte of register B becomes the byte there": the other bytes stay. */
     private static void stores() {
         LabelledCore core = Asm.core(
             Asm.store(2, 8, 9, 0), Asm.store(0, 7, 9, 4), Asm.store(0, 7, 9, 9), Asm.store(0, 7, 9, 14),
@@ -268,6 +274,7 @@ public final class InstructionTest {
         }
     }
 
+    /** "F 0 if equal, 1 if not, 4 if less, 5 if not less, 6 and 7 the same without signs". */
     private static void branches() {
         for (int f : new int[] {0, 1, 4, 5, 6, 7}) {
             for (int a : NUMBERS) {
@@ -349,6 +356,7 @@ public final class InstructionTest {
         Check.due("register A stays", Integer.toUnsignedLong(base), core.register(30));
     }
 
+    /** "register A goes out", "the first value that waits, into D". */
     private static void outAndIn() {
         LabelledCore core = Asm.core(Asm.out(0), Asm.in(30), Asm.out(30), Asm.fields(11, 30, 0, 30, 30, 127));
         core.input(-7, 0);

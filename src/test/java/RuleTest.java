@@ -46,6 +46,7 @@ public final class RuleTest {
         return PromiseTest.coreWithLabels(w, P, X, Y, m);
     }
 
+    /** "a mask stands for the join of the labels that it names", "A label that it has not is 0": masks 0 to 15. */
     private static void resultsAndNexts(int w, int group, int has) {
         for (int mask = 0; mask < 16; mask++) {
             LabelledCore core = core(w, 8);
@@ -66,6 +67,7 @@ public final class RuleTest {
         return group == 7 ? core.output(0) : core.register(5);
     }
 
+    /** "ALLOWED if LEFT is within RIGHT": all masks against all, 0 and 15 among them. */
     private static void leftsAndRights(int w, int group, int has) {
         for (int left = 0; left < 16; left++) {
             for (int right = 0; right < 16; right++) {
@@ -80,6 +82,7 @@ public final class RuleTest {
         }
     }
 
+    /** "The rule of a group": no other group has it. */
     private static void onlyItsOwnGroup(int w, int group) {
         for (int other = 0; other <= 8; other++) {
             LabelledCore core = core(w, 3);
